@@ -2,7 +2,8 @@
  * Mazes of at most six rows and six columns, and the ways in them.
  *
  * <p>A cell is told as 10 times its row and its column. Inside it has a PLACE: 8 times its row and its column. A set
- * of cells is a long with a bit for each place, so that a whole set is moved at once and no call makes an object.
+ * of cells is a long with a bit for each place, so that a whole set is moved at once; calls
+ * use the arrays made by the constructor, and only keep makes an object, once for each slot.
  */
 public final class HedgeWays {
     public static final int UNKNOWN = -1, BAD = -2, LATE = -3, FULL = -4, NONE = -9;
