@@ -92,7 +92,8 @@ final class Checks {
 
     /** All that an object holds: THE MAZE, THE TEXT, what is kept. It is used up by this: another maze is in it then. */
     static String whole(HedgeWays h) {
-        StringBuilder all = new StringBuilder(told(h));
+        StringBuilder all = new StringBuilder(told(h)).append(", about");
+        for (int what = 3; what <= 10; what++) all.append(' ').append(h.about(what));
         all.append("; ").append(h.about(13)).append(" bytes, fault ").append(h.fault());
         for (int slot = 0; slot < 2; slot++) {
             all.append("; slot ").append(slot).append(' ').append(h.again(slot)).append(' ').append(told(h));

@@ -163,6 +163,7 @@ public final class EdgesChangesTest {
         chaseInTwoParts();
         chaseRoundARing();
         chaseLongest();
+        chaseAgain();
     }
 
     private static void chaseUnknown() {
@@ -219,6 +220,8 @@ public final class EdgesChangesTest {
     private static void chaseInTwoParts() {
         chaseIs("the HUNTER is elsewhere", RING, 2, 10, 12, 3, NONE);
         chaseIs("the HUNTER is elsewhere", SNAKE_9 + "/000", 0, 22, 31, 8, NONE);
+        chaseIs("the HUNTER is alone in CELL 0", "0110/0000", 3, 1, 0, 2, NONE);
+        chaseIs("the HUNTER is alone in the last CELL", "1100/0000", 0, 2, 13, 2, NONE);
         chaseIs("the RUNNER is elsewhere", RING, 2, 12, 0, NONE, NONE);
         chaseIs("all three are apart", SHUT_36, 0, 34, 43, NONE, NONE);
         chaseIs("B is elsewhere", RING, 12, 2, 1, NONE, 1);
@@ -243,5 +246,21 @@ public final class EdgesChangesTest {
         chaseIs("34 turns", SNAKE_36, 50, 1, 0, 34, NONE);
         chaseIs("the RUNNER is in B just in time", SNAKE_36, 25, 0, 50, 17, NONE);
         chaseIs("the HUNTER is in B just in time", SNAKE_36, 35, 0, 50, NONE, 35);
+    }
+
+    /** Whatever was asked first, the answer is the same. */
+    private static void chaseAgain() {
+        for (int k = 0; k < 2; k++) {
+            boolean first = k == 1;
+            Checks.Calls before = h -> {
+                Mazes.holding(SNAKE_36, 0, 50).on(h);
+                h.chase(1, 0, first);
+                h.chase(0, 50, first);
+            };
+            Checks.still("29 chase: HOME, asked again", before, h -> h.chase(1, 0, true), 34);
+            Checks.still("29 chase: CAUGHT, asked again", before, h -> h.chase(0, 50, false), 35);
+            Checks.still("29 chase: HOME, NONE again", before, h -> h.chase(0, 50, true), NONE);
+            Checks.still("29 chase: CAUGHT, NONE again", before, h -> h.chase(1, 0, false), NONE);
+        }
     }
 }

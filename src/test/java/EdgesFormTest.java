@@ -223,6 +223,8 @@ public final class EdgesFormTest {
         musts("all of one way", Mazes.SNAKE_9, 0, 22, "111111111");
         musts("not what is behind", Mazes.SNAKE_9, 12, 20, "000111100");
         musts("the one in a star", STAR, 1, 21, "010010010");
+        musts("CELL 0 between", "30/00", 1, 10, "1110");
+        musts("the last CELL between", "02/10", 1, 10, "0111");
     }
 
     private static void lefts(String why, String maze, int a, int b, String due) {
@@ -246,5 +248,8 @@ public final class EdgesFormTest {
         lefts("a star, no gate in it", STAR, 0, 0, "100000000");
         lefts("all of it", Mazes.OPEN_9, 0, 22, "111111111");
         lefts("A and B apart in DEAD ENDS", "10/10", 0, 11, "1001");
+        lefts("CELL 0 between", "30/00", 1, 10, "1110");
+        lefts("CELL 0 is shut", "32/00", 10, 10, "0010");
+        lefts("the last CELL is shut", "02/10", 1, 1, "0100");
     }
 }

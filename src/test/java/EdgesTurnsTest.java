@@ -89,6 +89,7 @@ public final class EdgesTurnsTest {
         turnGatesAlone();
         turnStays();
         turnsTogether();
+        turnedRimAndWays();
     }
 
     /** The mazes were turned by another program. */
@@ -160,6 +161,20 @@ public final class EdgesTurnsTest {
                 h -> h.turn(1) + h.turn(1) + h.turn(1) + h.turn(1), 4);
     }
 
+    /** A ROW become a COLUMN is one for all that can be asked of it. */
+    private static void turnedRimAndWays() {
+        Checks.Calls turned = h -> {
+            Mazes.holding("111110").on(h);
+            h.turn(1);
+        };
+        Checks.still("31 turn: a side is the rim then", turned, h -> h.hedge(0, 1, true), LATE);
+        Checks.still("31 turn: the end is the rim then", turned, h -> h.hedge(50, 2, true), LATE);
+        Checks.still("31 turn: a CELL that is no more", turned, h -> h.open(1, 1), UNKNOWN);
+        Checks.still("31 turn: one goes down", turned, h -> h.far(0, 50), 5);
+        Checks.still("31 turn: one PART", turned, h -> h.about(4), 1);
+        Checks.then("31 turn: a HEDGE can be put in", turned, h -> h.hedge(40, 2, false), 1, "2/2/2/2/0/0 A0 B50");
+    }
+
     // ---- 32
 
     private static void keep() {
@@ -193,8 +208,9 @@ public final class EdgesTurnsTest {
         HedgeWays h = new HedgeWays();
         Mazes.holding(RING, 2, 10).on(h);
         h.keep(1);
-        Checks.due("32 keep: all else stays; all of it", Checks.whole(h), RING + " A2 B10; 8 bytes, fault -9; slot 0 9 "
-                + OPEN_9 + " A1 B20; slot 1 6 " + RING + " A2 B10; the text 6 12/30/00 A0 B21");
+        Checks.due("32 keep: all else stays; all of it", Checks.whole(h), RING
+                + " A2 B10, about 5 2 1 1 1 1 3 5; 8 bytes, fault -9; slot 0 9 " + OPEN_9
+                + " A1 B20; slot 1 6 " + RING + " A2 B10; the text 6 12/30/00 A0 B21");
     }
 
     private static void keepOver() {
@@ -244,14 +260,16 @@ public final class EdgesTurnsTest {
         }, h -> h.again(0), LATE);
         againLeavesTheText();
         againTwice();
+        againOfAnotherSize();
     }
 
     private static void againLeavesTheText() {
         HedgeWays h = new HedgeWays();
         Mazes.holding(RING, 2, 10).on(h);
         Checks.due("33 again: how many CELLS", h.again(0), 9);
-        Checks.due("33 again: THE TEXT stays; all of it", Checks.whole(h), OPEN_9 + " A1 B20; 8 bytes, fault -9; slot 0 9 "
-                + OPEN_9 + " A1 B20; slot 1 -3 " + OPEN_9 + " A1 B20; the text 6 12/30/00 A0 B21");
+        Checks.due("33 again: THE TEXT stays; all of it", Checks.whole(h), OPEN_9
+                + " A1 B20, about 12 1 4 0 5 0 2 9; 8 bytes, fault -9; slot 0 9 " + OPEN_9
+                + " A1 B20; slot 1 -3 " + OPEN_9 + " A1 B20; the text 6 12/30/00 A0 B21");
     }
 
     private static void againTwice() {
@@ -263,5 +281,29 @@ public final class EdgesTurnsTest {
             Mazes.holding(RING, 2, 10).on(h);
             h.keep(1);
         }, h -> h.again(1), 6);
+    }
+
+    /** What is gone on from is as large as it was kept, for all that can be asked of it. */
+    private static void againOfAnotherSize() {
+        Checks.Calls large = h -> {
+            Checks.maze(h, OPEN_36);
+            h.keep(1);
+            h.make(1, 1, 0L, 0);
+            h.again(1);
+        };
+        Checks.still("33 again: the last CELL", large, h -> h.far(0, 55), 10);
+        Checks.still("33 again: one PART", large, h -> h.about(4), 1);
+        Checks.then("33 again: a HEDGE can be put in", large, h -> h.hedge(55, 0, false), 1,
+                OPEN_36.replace("333332/111110", "333330/111110") + " A0 B55");
+        Checks.Calls small = h -> {
+            Checks.maze(h, "0");
+            h.keep(0);
+            Checks.maze(h, OPEN_36);
+            h.again(0);
+        };
+        Checks.still("33 again: the rim is near", small, h -> h.hedge(0, 1, true), LATE);
+        Checks.still("33 again: a CELL that is no more", small, h -> h.far(0, 55), UNKNOWN);
+        Checks.still("33 again: one PART", small, h -> h.about(4), 1);
+        Checks.still("33 again: one CELL is left", small, h -> h.about(10), 1);
     }
 }

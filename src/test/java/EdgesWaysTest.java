@@ -118,6 +118,7 @@ public final class EdgesWaysTest {
         stepsAre("two PARTS", RING, 12, 0);
         stepFirst();
         stepLongest();
+        stepAgain();
     }
 
     /** At each STEP the least SIDE, up ahead of right, right ahead of down, down ahead of left. */
@@ -141,6 +142,19 @@ public final class EdgesWaysTest {
         }
         stepsAre("the longest", SNAKE_36, 0, 50, cells);
         stepsAre("the longest, back", SNAKE_36, 50, 0, back);
+    }
+
+    /** Whatever was asked first, the answer is the same. */
+    private static void stepAgain() {
+        int[] cells = {0, 1, 2, 12, 22};
+        for (int k = 0; k < cells.length; k++) {
+            int at = k;
+            Checks.still("18 step: asked again", h -> {
+                Mazes.holding(OPEN_36).on(h);
+                h.step(0, 55, 10);
+                h.step(55, 0, 10);
+            }, h -> h.step(0, 22, at), cells[k]);
+        }
     }
 
     // ---- 19
@@ -367,6 +381,7 @@ public final class EdgesWaysTest {
         lostOfEleven();
         lostInTwoParts();
         lostInLeastTerms();
+        lostAndTreesAgain();
     }
 
     private static void lostInOneCell() {
@@ -410,6 +425,23 @@ public final class EdgesWaysTest {
         lostIs("a ring and a tail", RING, 1, 0, 9, 2);
         lostIs("from a tail", RING, 2, 0, 11, 2);
         lostIs("from an end of two", "10", 0, 1, 1, 1);
+    }
+
+    /** Whatever was asked first, the answers are the same. */
+    private static void lostAndTreesAgain() {
+        Checks.Calls before = h -> {
+            Mazes.holding(SNAKE_10).on(h);
+            h.lost(0, 12, true);
+            h.trees(0);
+            Checks.maze(h, RING);
+            h.lost(1, 0, false);
+        };
+        Checks.still("24 lost: above, asked again", before, h -> h.lost(2, 0, true), 11);
+        Checks.still("24 lost: below, asked again", before, h -> h.lost(2, 0, false), 2);
+        Checks.still("24 lost: above, both are one, asked again", before, h -> h.lost(2, 2, true), 0);
+        Checks.still("24 lost: below, both are one, asked again", before, h -> h.lost(2, 2, false), 1);
+        Checks.still("25 trees: asked again", before, h -> h.trees(2), 4);
+        Checks.still("25 trees: one alone, asked again", before, h -> h.trees(12), 1);
     }
 
     // ---- 25
