@@ -710,7 +710,7 @@ public final class HedgeWays {
                     cameFrom[next] = place;
                     visited |= Grid.bit(next);
                     place = next;
-                } else if (place == 0) {
+                } else if (place == 0 || !Grid.has(grid.cells, place)) {
                     return;
                 } else {
                     place = cameFrom[place];
